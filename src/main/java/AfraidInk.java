@@ -670,11 +670,11 @@ public final class AfraidInk {
         }
 
         int dreadOf(int b, int w) {
-            return dread[cell(b, w)];
+            return dread[(b & 7) * WORDS + (w & 15)];
         }
 
         int triesOf(int b, int w) {
-            return tries[cell(b, w)];
+            return tries[(b & 7) * WORDS + (w & 15)];
         }
 
         void setKind(int b, int to) {
@@ -690,11 +690,11 @@ public final class AfraidInk {
         }
 
         void setDread(int b, int w, int to) {
-            dread[cell(b, w)] = bounded(to, MOST_FEAR);
+            dread[(b & 7) * WORDS + (w & 15)] = bounded(to, MOST_FEAR);
         }
 
         void setTries(int b, int w, int to) {
-            tries[cell(b, w)] = to;
+            tries[(b & 7) * WORDS + (w & 15)] = to;
         }
 
         void putNew(int b, int newKind) {
@@ -731,7 +731,7 @@ public final class AfraidInk {
         }
 
         int shrinking(int b, int w) {
-            return shrinkingWithSalt(b, w, saltOf(b));
+            return bounded(unsalted(b, w) - saltOf(b), MOST_FEAR);
         }
 
         boolean bears(int b, int w) {
@@ -772,7 +772,8 @@ public final class AfraidInk {
 
         boolean bearsWithSalt(int b, int words, int withSalt) {
             for (int w = 0; w < WORDS; w++) {
-                if ((words >> w & 1) != 0 && shrinkingWithSalt(b, w, withSalt) > nerve) {
+                int shrinking = bounded(unsalted(b, w) - withSalt, MOST_FEAR);
+                if ((words >> w & 1) != 0 && shrinking > nerve) {
                     return false;
                 }
             }
@@ -825,10 +826,6 @@ public final class AfraidInk {
             }
         }
 
-        private int shrinkingWithSalt(int b, int w, int withSalt) {
-            return bounded(unsalted(b, w) - withSalt, MOST_FEAR);
-        }
-
         private int unsalted(int b, int w) {
             switch (kindOf(b)) {
                 case WIDOW:
@@ -842,10 +839,6 @@ public final class AfraidInk {
                 default:
                     return (dreadOf(b, w) + dreadOf(b, rhymes.of(w)) + 1) / 2;
             }
-        }
-
-        private static int cell(int b, int w) {
-            return (b & 7) * WORDS + (w & 15);
         }
 
         private static int followerOf(int before) {
@@ -1127,14 +1120,14 @@ public final class AfraidInk {
             facts[9] = draw;
         }
 
-        void lookAtBottle(Shelf shelf, int b, int w) {
+        void lookAtBottle(Shelf shelf, int b, int w, int shrinking) {
             facts[0] = b;
             facts[1] = shelf.kindOf(b);
             facts[2] = w;
             facts[3] = shelf.dreadOf(b, w);
             facts[4] = shelf.triesOf(b, w);
             facts[5] = shelf.saltOf(b);
-            facts[6] = shelf.shrinking(b, w);
+            facts[6] = shrinking;
         }
 
         boolean opens() {
@@ -1146,15 +1139,7 @@ public final class AfraidInk {
             return true;
         }
 
-        int addedFear() {
-            return valueBy('f', MOST_FEAR, 0);
-        }
-
-        int liking() {
-            return valueBy('e', MOST_COUNT, 1);
-        }
-
-        private int valueBy(int letter, int most, int without) {
+        int valueBy(int letter, int most, int without) {
             for (int r = 0; r < rules && r < MOST_RULES; r++) {
                 if (letters[r] == letter && run(testFrom[r], testEnd[r]) != 0) {
                     return bounded(run(valueFrom[r], testFrom[r]), most);
@@ -1448,15 +1433,16 @@ public final class AfraidInk {
                 if (!shelf.isTold(b) || shelf.inkOf(b) == 0) {
                     continue;
                 }
-                law.lookAtBottle(shelf, b, w);
+                int shrinking = shelf.shrinking(b, w);
+                law.lookAtBottle(shelf, b, w, shrinking);
                 if (!law.opens()) {
                     continue;
                 }
-                int liked = law.liking();
+                int liked = law.valueBy('e', MOST_COUNT, 1);
                 if (liked == 0 || liked < mostLiked) {
                     continue;
                 }
-                int fear = Math.min(shelf.shrinking(b, w) + law.addedFear(), MOST_FEAR);
+                int fear = Math.min(shrinking + law.valueBy('f', MOST_FEAR, 0), MOST_FEAR);
                 if (liked > mostLiked || fear < chosenFear) {
                     chosen = b;
                     mostLiked = liked;

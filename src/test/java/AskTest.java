@@ -9,6 +9,7 @@ public final class AskTest {
     guardOfEight();
     training();
     trainingOfRhymes();
+    trainingOfManyRows();
     borne();
     due.end();
   }
@@ -48,6 +49,12 @@ public final class AskTest {
     due.is("no BOTTLES", whose(new AfraidInk(), 0, 1), 0);
     Due.feed(x, 0, 1);
     due.is("whose(11) of 20 bytes", x.whose(11), -1);
+    due.is("whose(10) of 20 bytes", x.whose(10), 0);
+    Due.feed(x, new int[40]);
+    due.is("whose(13) of 40 bytes", x.whose(13), -1);
+    due.is("40 bytes stay", x.count(6), 40);
+    due.is("whose(12) of 40 bytes: a did not", x.whose(12), 1);
+    Due.feed(x, 0, 1);
     due.is("whose(0)", x.whose(0), -1);
     due.is("whose(13)", x.whose(13), -1);
     due.is("the tape stays", x.count(6), 20);
@@ -62,6 +69,15 @@ public final class AskTest {
     due.is("next of 0 and 3", x.next(9, 0), 0);
     due.is("next of one", x.next(8, 0), 0);
     due.is("how great of one", x.next(8, 1), 1);
+    AfraidInk y = new AfraidInk();
+    for (int b = 0; b < 8; b++) {
+      y.bottle(b, 3);
+    }
+    due.is("eight alike", y.next(255, 0), 0);
+    due.is("how great of eight", y.next(255, 1), 8);
+    Due.grief(y, 0, "#0;p=99");
+    due.is("only p parts them", y.next(255, 0), 15);
+    due.is("seven and one", y.next(255, 1), 7);
     due.is("none", x.next(0, 0), -1);
     due.is("one that is not told", x.next(139, 0), -1);
     due.is("bit 8", x.next(256, 0), -1);
@@ -179,6 +195,38 @@ public final class AskTest {
     Due.letter(x, "2f");
     x.days(1);
     due.is("by TRIES that are missing", training(x, 0, 0, 4, 5), 9);
+  }
+
+  /** The first rows that are tried go wrong, or cost more: what they did must be undone for the next ones. */
+  private static void trainingOfManyRows() {
+    AfraidInk x = new AfraidInk();
+    x.bottle(0, 0);
+    x.nerve(50);
+    Due.grief(x, 0, "a=45;b=60;a~b;c=60;d=0;c~d");
+    // a has 45: b makes it 54, above NERVE, and then a must be USED, too, which makes b 9.
+    due.is("b, then a", training(x, 0, 0, 0, 1), 18);
+    due.is("a, then b, is the least row", training(x, 0, 1, 0, 1), 0);
+    due.is("with c and d", training(x, 0, 0, 3, 2, 1, 0), 27);
+    due.is("with c and d: the first", training(x, 0, 1, 3, 2, 1, 0), 0);
+    Due.grief(x, 0, "a=10");
+    due.is("b alone", training(x, 0, 0, 0, 1), 9);
+    due.is("b alone: the first", training(x, 0, 1, 0, 1), 1);
+    x.bottle(0, 4);
+    x.nerve(30);
+    Due.grief(x, 0, "e=70;f=40;e~f;g=80;h=20;g~h");
+    // MIXED e and f: 55; e USED: (0 + 49) / 2 is 25; f USED: (79 + 0) / 2 is 40.
+    due.is("e", training(x, 0, 0, 5, 4), 9);
+    due.is("e: the first", training(x, 0, 1, 5, 4), 4);
+    due.is("e and g", training(x, 0, 0, 7, 6, 5, 4), 18);
+    Due.letter(x, "8f8h");
+    x.days(1);
+    // f has 1 try left, but does not help alone.
+    due.is("e still", training(x, 0, 0, 4, 5), 9);
+    due.is("f first costs more", training(x, 0, 1, 4, 5), 4);
+    Due.grief(x, 0, "e=40;f=70");
+    due.is("f takes one try", training(x, 0, 0, 4, 5), 1);
+    due.is("f: the first", training(x, 0, 1, 4, 5), 5);
+    due.is("f and g", training(x, 0, 0, 4, 5, 6, 7), 10);
   }
 
   private static void borne() {

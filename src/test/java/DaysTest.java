@@ -143,6 +143,7 @@ public final class DaysTest {
     due.is("tried(3, 1)", x.tried(3, 1), 6);
     due.is("tried(4, 2)", x.tried(4, 2), 0);
     due.is("tried(5, 2)", x.tried(5, 2), 1);
+    due.is("tried(5, 2) again", x.tried(5, 2), 1);
     due.is("tried(5, 200)", x.tried(5, 200), 17);
     due.is("tried(5, 100)", x.tried(5, 100), 989);
     due.is("tried(5, 103)", x.tried(5, 103), 994);
@@ -160,6 +161,7 @@ public final class DaysTest {
     Due.grief(x, 0, "a=30");
     Due.letter(x, "2a");
     due.is("it BEARS b", x.used(0, 1, 1), 0);
+    due.is("it BEARS p", x.used(0, 15, 60), 0);
     due.is("not in 4 DAYS", x.used(0, 0, 4), -2);
     due.is("in 5", x.used(0, 0, 5), 5);
     due.is("in 60", x.used(0, 0, 60), 5);

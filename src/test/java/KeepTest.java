@@ -31,7 +31,7 @@ public final class KeepTest {
     Due.grief(x, 0, "a=30;!4;a~b");
     Due.letter(x, "ab");
     Due.law(x, "f1(b=0)");
-    x.nerve(30);
+    x.nerve(25);
     x.ink(0, 500);
     x.days(3);
     due.is("keep()", x.keep(), 3);
@@ -45,7 +45,7 @@ public final class KeepTest {
     Due.law(x, "f1(b=0);x(b=1)");
     x.feed(1, 2, 3, 4, 5);
     due.is("undo()", x.undo(), true);
-    int[] counts = {3, 1, 30, 0, 6, 2, 20, kept, 3};
+    int[] counts = {3, 1, 25, 3, 3, 2, 20, kept, 3};
     for (int what = 0; what < counts.length; what++) {
       due.is("UNDONE: count(" + what + ")", x.count(what), counts[what]);
     }

@@ -13,6 +13,8 @@ public final class LawTest {
     facts();
     firstRuleCounts();
     bounds();
+    manyLaws();
+    manyRefusals();
     due.end();
   }
 
@@ -24,7 +26,8 @@ public final class LawTest {
         "f5([b]=0)", "f5(!b)", "f5(!b=0)", "f5(!(b=0))", "f5(!)", "f5()", "f5(b=0&)", "f5(b=0|)", "f5(b=0&&k=0)",
         "f5((b=0)&k=0)", "f5((b=0)=0)", "f5(b=123456)", "f5(b=12345)", "f5(b=0))", "f5b(b=0)", "fb(b=0)", "x",
         "x(", "f5(b==0)", "f5(b<=0)", "F5(b=0)", "f5(b=0);g", "f5(B=0)", "f5(b=0)]", "x([b=0])", "x(!!b=0)", "f5(=0)",
-        "f5b", "x(b=0;", "f5%3*2/1-b+k(u<1)"};
+        "f5b", "x(b=0;", "f5%3*2/1-b+k(u<1)", "x(bk=0)", "x([b]k=0)", "x(5b=0)", "x(b[0])", "x(b5=0)", "fbk(b=0)",
+        "f5[b](b=0)", "x(b=00k)"};
     int[] want = {1, 1, 1, -1000, -1001, -1001, -1001, -1002, -1004,
         -1005, -1006, -1003, -2006, 1, -1008, -1008, -1007,
         -1007, -1000, -1002, -1001, -1001, -1003, -1003, -1003,
@@ -32,7 +35,8 @@ public final class LawTest {
         1, -1005, 1, 1, -1004, -1003, -1007, -1007, -1007,
         1, -1008, -2010, 1, -1007, -1002, 1, -1001,
         -1002, -1005, -1005, -1000, -1008, -1003, -1007, -1004, 1, -1003,
-        -1002, -1005, 1};
+        -1002, -1005, 1, -1003, -1005, -1003, -1003, -1003, -1002,
+        -1002, -1006};
     for (int k = 0; k < texts.length; k++) {
       AfraidInk x = new AfraidInk();
       due.is("law " + texts[k], Due.law(x, texts[k]), want[k]);
@@ -121,9 +125,11 @@ public final class LawTest {
   private static void conditions() {
     String[] hold = {"1=1", "1<2", "2>1", "!1=2", "!!1=1", "1=2|1=1", "1=1&2=2", "1=1|1=2&1=2", "[0-1]<0",
         "(1=2|1=1)&1=1", "!(1=1&1=2)", "!1=2&1=1", "1=2&1=2|1=1", "!(!(1=1))", "1=2|1=2|1=2|1=1", "!1=1|1=1",
-        "1=1&1=1&!1=2&(1=2|2=2)"};
+        "1=1&1=1&!1=2&(1=2|2=2)", "1=2&1=1&1=1|1=1", "1=2&1=1&1=1&1=1|1=2&1=1|1=1", "!(1=2&1=1&1=1)",
+        "1=1|1=2|1=2", "(1=1|1=2|1=2)&(1=1|1=2|1=2)"};
     String[] not = {"1=2", "2<2", "2>2", "!1=1", "1=2|2=1", "1=1&2=1", "(1=1|1=2)&1=2", "!(1=1|1=2)", "!1=1&1=1",
-        "1=1&1=1&1=2", "1=2&1=1|1=2&1=1", "!1=2&1=2", "!(1=2)&!(1=1)"};
+        "1=1&1=1&1=2", "1=2&1=1|1=2&1=1", "!1=2&1=2", "!(1=2)&!(1=1)", "1=2&1=1&1=1",
+        "(1=2&1=1&1=1)|1=2", "!(1=1|1=2|1=2)", "(1=1|1=2|1=2)&1=2"};
     for (String condition : hold) {
       due.is(condition + " holds", holds(condition), true);
     }
@@ -133,7 +139,8 @@ public final class LawTest {
   }
 
   private static void refusedDivisions() {
-    String[] hold = {"1=1|1/0=1", "!(1=2&1/0=1)", "1=2&1%0=0|1=1", "1=1|1%0=1|1/0=1", "(1=1|1/0=0)&1=1"};
+    String[] hold = {"1=1|1/0=1", "!(1=2&1/0=1)", "1=2&1%0=0|1=1", "1=1|1%0=1|1/0=1", "(1=1|1/0=0)&1=1",
+        "1=2&1/0=0&1=1|1=1", "!(1=2&1/0=0&1/0=0)"};
     String[] not = {"1/0=0", "1%0=0", "!1/0=0", "!1%0=1", "1/0=1|1=1", "1=1&1/0=0", "1=1&!1/0=0", "(1/0=0)|1=1",
         "!(1=2|1/0=1)", "0/0=0", "1=1/b", "1/b=1/b", "1=2|1%b=0|1=1", "0*[1/0]=0"};
     for (String condition : hold) {
@@ -206,6 +213,26 @@ public final class LawTest {
     Due.law(x, "e2(b=1);f90(b=1)");
     due.is("liked more, feared more: it is tried", x.tried(1, 101), 998);
     due.is("and beads up", x.tried(1, 1), 1);
+  }
+
+  /** What was read for a LAW before must not come back, nor use up any room. */
+  private static void manyLaws() {
+    AfraidInk x = writer();
+    for (int k = 0; k < 60; k++) {
+      due.is("three RULES", Due.law(x, "f0(b=1);f99(b=0);x(b=0)"), 3);
+      due.is("shut", x.tried(1, 100), 999);
+      due.is("a FAULT", Due.law(x, "f0(b=0&b=0);f99(b=0);x(b=0);q"), -1028);
+      due.is("one RULE", Due.law(x, "e1(b=0)"), 1);
+      due.is("open, and nothing is added", x.tried(1, 0), 1);
+    }
+  }
+
+  private static void manyRefusals() {
+    AfraidInk x = writer();
+    Due.letter(x, "9a9b");
+    Due.law(x, "x(1+2*[3-1/0]=1);e5+[1%0](b=1);f1-2*[5/0](w=0);f99(w=1&i>8)");
+    due.is("REFUSED again and again", x.tried(20, 0), 180);
+    due.is("PICTURES", x.tried(20, 1), 180);
   }
 
   private static void bounds() {

@@ -160,11 +160,12 @@ public final class ShelfTest {
     AfraidInk x = new AfraidInk();
     for (int kind = 0; kind <= 4; kind++) {
       x.bottle(kind, kind);
-      Due.grief(x, kind, "a=61;b=8;c=99;a~b");
+      Due.grief(x, kind, "a=61;b=8;c=99;a~b;d=50;e=40;f=30;e~f");
     }
-    int[][] want = {{61, 8, 99}, {99, 16, 99}, {30, 4, 49}, {0, 0, 0}, {35, 35, 99}};
+    int[][] want = {{61, 8, 99, 50, 40, 30}, {99, 16, 99, 99, 80, 60}, {30, 4, 49, 25, 20, 15}, {0, 0, 0, 0, 0, 0},
+        {35, 35, 99, 50, 35, 35}};
     for (int kind = 0; kind <= 4; kind++) {
-      for (int w = 0; w < 3; w++) {
+      for (int w = 0; w < 6; w++) {
         due.is("SHRINKING of KIND " + kind + " from " + w, x.fear(kind, w, 2), want[kind][w]);
       }
     }
@@ -173,8 +174,8 @@ public final class ShelfTest {
     due.is("twice 61 less 99", x.fear(1, 0, 2), 23);
     due.is("no less than 0", x.fear(1, 1, 2), 0);
     x.nerve(35);
-    due.is("BEARS by no more than NERVE", x.bottleIs(4, 3), 65535 - 4);
+    due.is("BEARS by no more than NERVE", x.bottleIs(4, 3), 65535 - 4 - 8);
     x.nerve(34);
-    due.is("does not BEAR above NERVE", x.bottleIs(4, 3), 65535 - 7);
+    due.is("does not BEAR above NERVE", x.bottleIs(4, 3), 65535 - 7 - 8 - 16 - 32);
   }
 }
