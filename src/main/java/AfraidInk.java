@@ -33,13 +33,12 @@ public final class AfraidInk {
     private final Shelf trial;
     private final Letter letter;
     private final Grief grief;
+    private final Law law;
     private final LawReader lawReader;
     private final Scribe scribe;
     private final Row row;
     private final Trainer trainer;
     private final Riddles riddles;
-    private Law law;
-    private Law spareLaw;
     private boolean anyKept;
 
     public AfraidInk() {
@@ -50,13 +49,12 @@ public final class AfraidInk {
         trial = new Shelf(rhymes);
         letter = new Letter(tape);
         grief = new Grief(tape);
+        law = new Law();
+        lawReader = new LawReader(tape);
         scribe = new Scribe(letter);
         row = new Row(letter);
         trainer = new Trainer(trial);
         riddles = new Riddles(tape);
-        law = new Law();
-        spareLaw = new Law();
-        lawReader = new LawReader(tape, spareLaw);
         anyKept = false;
     }
 
@@ -108,12 +106,10 @@ public final class AfraidInk {
         if (!within(n, 1, Law.MOST_BYTES) || !tape.has(n)) {
             return NONE;
         }
-        int answer = lawReader.readInto(spareLaw, n);
+        int answer = lawReader.read(n);
         tape.empty();
         if (answer > 0) {
-            Law before = law;
-            law = spareLaw;
-            spareLaw = before;
+            law.copyFrom(lawReader.draft);
         }
         return answer;
     }
@@ -1048,8 +1044,8 @@ public final class AfraidInk {
     }
 
     /**
-     * THE LAW as code for a machine with a stack: what stands ahead of a sign in brackets is then
-     * reckoned without calls in one another, and an | or & can leap over what does not matter.
+     * THE LAW as code for a machine with a stack: it is reckoned without calls in one another,
+     * and an | or & can leap over what does not matter.
      */
     private static final class Law {
         static final int MOST_BYTES = 240;
@@ -1087,6 +1083,16 @@ public final class AfraidInk {
         void clear() {
             size = 0;
             rules = 0;
+        }
+
+        void copyFrom(Law from) {
+            System.arraycopy(from.code, 0, code, 0, MOST_BYTES);
+            System.arraycopy(from.letters, 0, letters, 0, MOST_RULES);
+            System.arraycopy(from.valueFrom, 0, valueFrom, 0, MOST_RULES);
+            System.arraycopy(from.testFrom, 0, testFrom, 0, MOST_RULES);
+            System.arraycopy(from.testEnd, 0, testEnd, 0, MOST_RULES);
+            size = from.size;
+            rules = from.rules;
         }
 
         int emit(int operation, int operand) {
@@ -1222,27 +1228,29 @@ public final class AfraidInk {
         }
     }
 
-    /** Reads a text as a LAW. "open" is how many of ( [ ! are open, which bounds the calls in one another. */
+    /**
+     * Reads a text as a draft of a LAW, for a FAULT leaves the one before.
+     * "open" is how many of ( [ ! are open, which bounds the calls in one another.
+     */
     private static final class LawReader {
         private static final int MOST_OPEN = 6;
         private static final int MOST_DIGITS = 5;
 
         private final Tape text;
-        private Law law;
+        private final Law draft;
 
-        LawReader(Tape text, Law draft) {
+        LawReader(Tape text) {
             this.text = text;
-            law = draft;
+            draft = new Law();
         }
 
-        int readInto(Law target, int n) {
-            law = target;
-            law.clear();
+        int read(int n) {
+            draft.clear();
             text.begin(n);
             for (int k = 0; k <= Law.MOST_RULES && !text.hasFailed(); k++) {
                 readRule();
                 if (!text.hasFailed() && text.isAtEnd()) {
-                    return law.rules;
+                    return draft.rules;
                 }
                 text.take(';');
             }
@@ -1255,20 +1263,20 @@ public final class AfraidInk {
                 text.fail(FAULT_SIGN);
                 return;
             }
-            if (law.rules >= Law.MOST_RULES) {
+            if (draft.rules >= Law.MOST_RULES) {
                 text.fail(FAULT_TOO_MANY);
                 return;
             }
             text.step();
-            int value = law.size;
+            int value = draft.size;
             if (letter != 'x') {
                 readSum(0);
             }
-            int test = law.size;
+            int test = draft.size;
             text.take('(');
             readAny(1);
             text.take(')');
-            law.addRule(letter, value, test);
+            draft.addRule(letter, value, test);
         }
 
         /** Each | leaps to the next one if what is ahead holds, the last one behind all: no list of them is needed. */
@@ -1277,11 +1285,11 @@ public final class AfraidInk {
             readAll(open);
             for (int k = 0; k < Law.MOST_BYTES && text.sign() == '|'; k++) {
                 text.step();
-                law.leapTo(leap, law.size);
-                leap = law.emit(Law.OR, 0);
+                draft.leapTo(leap, draft.size);
+                leap = draft.emit(Law.OR, 0);
                 readAll(open);
             }
-            law.leapTo(leap, law.size);
+            draft.leapTo(leap, draft.size);
         }
 
         private void readAll(int open) {
@@ -1289,11 +1297,11 @@ public final class AfraidInk {
             readTest(open);
             for (int k = 0; k < Law.MOST_BYTES && text.sign() == '&'; k++) {
                 text.step();
-                law.leapTo(leap, law.size);
-                leap = law.emit(Law.AND, 0);
+                draft.leapTo(leap, draft.size);
+                leap = draft.emit(Law.AND, 0);
                 readTest(open);
             }
-            law.leapTo(leap, law.size);
+            draft.leapTo(leap, draft.size);
         }
 
         private void readTest(int open) {
@@ -1301,7 +1309,7 @@ public final class AfraidInk {
             if (sign == '!') {
                 if (canOpen(open)) {
                     readTest(open + 1);
-                    law.emit(Law.NOT, 0);
+                    draft.emit(Law.NOT, 0);
                 }
             } else if (sign == '(') {
                 if (canOpen(open)) {
@@ -1312,7 +1320,7 @@ public final class AfraidInk {
                 readSum(open);
                 int comparison = readComparison();
                 readSum(open);
-                law.emit(comparison, 0);
+                draft.emit(comparison, 0);
             }
         }
 
@@ -1338,7 +1346,7 @@ public final class AfraidInk {
                 }
                 text.step();
                 readTerm(open);
-                law.emit(sign == '+' ? Law.PLUS : Law.MINUS, 0);
+                draft.emit(sign == '+' ? Law.PLUS : Law.MINUS, 0);
             }
         }
 
@@ -1352,9 +1360,9 @@ public final class AfraidInk {
                 text.step();
                 readFactor(open);
                 if (sign == '*') {
-                    law.emit(Law.TIMES, 0);
+                    draft.emit(Law.TIMES, 0);
                 } else {
-                    law.emit(sign == '/' ? Law.OVER : Law.REST, 0);
+                    draft.emit(sign == '/' ? Law.OVER : Law.REST, 0);
                 }
             }
         }
@@ -1368,10 +1376,10 @@ public final class AfraidInk {
                     text.take(']');
                 }
             } else if (isDigit(sign)) {
-                law.emit(Law.NUMBER, text.readNumber(MOST_DIGITS));
+                draft.emit(Law.NUMBER, text.readNumber(MOST_DIGITS));
             } else if (fact >= 0) {
                 text.step();
-                law.emit(Law.FACT, fact);
+                draft.emit(Law.FACT, fact);
             } else {
                 text.fail(FAULT_SIGN);
             }

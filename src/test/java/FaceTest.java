@@ -36,6 +36,8 @@ public final class FaceTest {
       if (!Modifier.isPrivate(method.getModifiers())) {
         due.is(method + " is public", Modifier.isPublic(method.getModifiers()), true);
         shown.add(signature(method));
+      } else {
+        due.is(method + " bears no name of the face", names().contains(method.getName()), false);
       }
     }
     due.is("the methods of the face: " + shown, shown.equals(new TreeSet<>(FACE)), true);
@@ -59,11 +61,15 @@ public final class FaceTest {
     return text.append(')').toString();
   }
 
-  private static void insideClasses() {
+  private static Set<String> names() {
     Set<String> names = new TreeSet<>();
     for (String signature : FACE) {
       names.add(signature.substring(signature.indexOf(' ') + 1, signature.indexOf('(')));
     }
+    return names;
+  }
+
+  private static void insideClasses() {
     Class<?>[] inside = AfraidInk.class.getDeclaredClasses();
     due.is("some twelve classes at most", inside.length <= 11, true);
     for (Class<?> one : inside) {
@@ -76,7 +82,7 @@ public final class FaceTest {
       }
       due.is(one + " has some twenty fields at most", own <= 20, true);
       for (Method method : one.getDeclaredMethods()) {
-        due.is(method + " bears no name of the face", names.contains(method.getName()), false);
+        due.is(method + " bears no name of the face", names().contains(method.getName()), false);
         due.is(method + " takes seven at most", method.getParameterCount() <= 7, true);
       }
     }
