@@ -64,8 +64,8 @@ final class GriefEdges extends Edge {
   private static void nothingElseIsDone() {
     says("LINES with a ; (59) between two (20 at most): a letter a to p, then = and a number (DREAD), or + or - and a"
         + " number (DREAD more or less; 0 to 99), or ~ and a letter (126:");
-    String[] texts = {"b=1", "b+1", "b-1", "b~a", "!1", "#1"};
-    int[][] want = {{1, 0, 0, 1}, {6, 0, 0, 1}, {4, 0, 0, 1}, {5, 0, 0, 0}, {5, 1, 0, 1}, {5, 0, 1, 1}};
+    String[] texts = {"b=3", "b+3", "b-3", "b~a", "!3", "#3"};
+    int[][] want = {{3, 0, 0, 1}, {8, 0, 0, 1}, {2, 0, 0, 1}, {5, 0, 0, 0}, {5, 3, 0, 1}, {5, 0, 3, 1}};
     for (int k = 0; k < texts.length; k++) {
       AfraidInk x = after("b=5");
       is("one LINE " + texts[k], Due.grief(x, 0, texts[k]), 1);
