@@ -221,13 +221,16 @@ final class RefusedEdges extends Edge {
     refused("check(0)", 1, EMPTIED, x -> x.check(0), -1);
     refused("treaty(1, 1, 0)", 1, EMPTIED, x -> x.treaty(1, 1, 0), 1);
     // c and d were tried twice on each of three DAYS: three TRIES are missing of each.
-    refused("training that is done", 0, EMPTIED, x -> fedTraining(x, 0), 6);
-    refused("training's first", 0, EMPTIED, x -> fedTraining(x, 1), 2);
+    refused("training that is done", 0, EMPTIED, x -> fedTraining(x, 2, 0, 2, 3, 4), 6);
+    refused("training's first", 0, EMPTIED, x -> fedTraining(x, 2, 1, 2, 3, 4), 2);
+    // USED to b, the MIXED one has 59 of a: the mean, rounded up, less SALT 9 is 21, and NERVE 18.
+    refused("training that can't be", 0, EMPTIED, x -> fedTraining(x, 7, 0, 1), -4);
+    refused("training that can't be: the first", 0, EMPTIED, x -> fedTraining(x, 7, 1, 1), -4);
   }
 
-  private static int fedTraining(AfraidInk x, int what) {
-    Due.feed(x, 2, 3, 4);
-    return x.training(2, 3, what);
+  private static int fedTraining(AfraidInk x, int b, int what, int... words) {
+    Due.feed(x, words);
+    return x.training(b, words.length, what);
   }
 
   /** Calls that only ask: what they answer is tested elsewhere. */
