@@ -2,8 +2,8 @@ import java.util.ArrayList;
 import java.util.List;
 
 /**
- * Whatever can happen to a chancery with a past, in all rows of three one behind the other: behind them each call must
- * answer as the Model does.
+ * Whatever can happen to a chancery with a past, in all rows of three one behind the other: what is asked behind them
+ * must be answered as the Model does. (Of guard the Model tries all WORDS, which is slow: AgreeRuns asks it.)
  */
 final class EventRuns {
   private static final String PAST = """
